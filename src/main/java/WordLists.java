@@ -283,7 +283,7 @@ public final class WordLists {
     }
 
     private boolean isOf(int word, int list) {
-        return (wordListBits[word] & 1 << list) != 0;
+        return (wordListBits[word] & (1 << list)) != 0;
     }
 
     private boolean isFreeIn(int word, int list) {

@@ -19,6 +19,7 @@ public final class PromisesTest {
         mergeRefuses();
         seek();
         seek250Words();
+        ask250Words();
         candidate();
         candidatesStay();
         at();
@@ -264,6 +265,20 @@ public final class PromisesTest {
         Check.due("aa is the first one", 0, x.candidate(0));
         Check.due("zj is the last one", 242, x.candidate(249));
         Check.dueThrow("there is no candidate 250", () -> x.candidate(250));
+    }
+
+    /** The row is gj, the last word: nine blocks of 26 words end with a to i, 16 words (r to z, a to g) with j. */
+    private static void ask250Words() {
+        WordLists x = with250Words();
+        Check.due("bar gj among 250 words", 1, x.bar(true));
+        Check.due("begins gj", 0, x.begins(3));
+        Check.due("bar gj no more", 1, x.bar(false));
+        Check.due("begins gj", 1, x.begins(3));
+        Check.due("ends gj", 1, x.ends(3));
+        Check.due("mixed gj: gj and jg", 2, x.mixed(3));
+        Check.due("letters j: the first one in 9 words, the second one in 16", 25, x.letters(3, 'j'));
+        Check.due("nothing in common", 0, x.common(3));
+        Check.due("merge 250 words", 250, x.merge(0, 0, 3, 1));
     }
 
     private static void bar() {
@@ -537,6 +552,11 @@ public final class PromisesTest {
         dueMixed(x, "onmlkjihgfedcb?", 3, 1);
         dueMixed(x, "onmlkjihgfedcbb", 3, 0);
         dueMixed(x, "???????????????", 3, 1);
+        enter(x, "cb", 2, 1);
+        enter(x, "aa", 2, 1);
+        enter(x, "zz", 2, 1);
+        dueMixed(x, "ab", 2, 0);
+        dueMixed(x, "bz", 2, 0);
         row(x, "tree");
         x.bar(true);
         dueMixed(x, "eetr", 0, 1);
