@@ -252,19 +252,25 @@ public final class ModelTest {
         return (int) ((state >>> 33) % limit);
     }
 
+    /** Now and then the least or the greatest int instead of an ordinary argument. */
+    private int orAnEndOfInt(int ordinary) {
+        int kind = below(150);
+        return kind == 0 ? Integer.MIN_VALUE : kind == 1 ? Integer.MAX_VALUE : ordinary;
+    }
+
     private int letter(int alphabet) {
         int kind = below(60);
-        return kind == 0 ? 96 : kind == 1 ? 123 : kind == 2 ? 63 : 'a' + below(alphabet);
+        return orAnEndOfInt(kind == 0 ? 96 : kind == 1 ? 123 : kind == 2 ? 63 : 'a' + below(alphabet));
     }
 
     private int list() {
         int kind = below(60);
-        return kind == 0 ? -1 : kind == 1 ? 4 : below(4);
+        return orAnEndOfInt(kind == 0 ? -1 : kind == 1 ? 4 : below(4));
     }
 
     private int score() {
         int kind = below(30);
-        return kind == 0 ? -1 : kind == 1 ? 1001 : kind == 2 ? 1000 : below(4);
+        return orAnEndOfInt(kind == 0 ? -1 : kind == 1 ? 1001 : kind == 2 ? 1000 : below(4));
     }
 
     private int[] call(int alphabet, int blankOdds) {
@@ -283,13 +289,13 @@ public final class ModelTest {
             case 2: return new int[] {2, letter(alphabet), letter(alphabet)};
             case 3: return new int[] {3, list(), score()};
             case 4: return new int[] {4, below(2)};
-            case 5: return new int[] {5, below(5) - 1, list(), list(), list()};
-            case 7: return new int[] {7, below(6) - 1};
-            case 8: return new int[] {8, below(8) - 1, letter(alphabet)};
-            case 12: return new int[] {12, list(), below(18) - 1};
+            case 5: return new int[] {5, orAnEndOfInt(below(5) - 1), list(), list(), list()};
+            case 7: return new int[] {7, orAnEndOfInt(below(6) - 1)};
+            case 8: return new int[] {8, orAnEndOfInt(below(8) - 1), letter(alphabet)};
+            case 12: return new int[] {12, list(), orAnEndOfInt(below(18) - 1)};
             case 13: return new int[] {13, list(), letter(alphabet)};
-            case 14: return new int[] {14, below(40) - 1, below(8) - 1};
-            case 15: return new int[] {15, below(40) - 1, below(6) - 1};
+            case 14: return new int[] {14, orAnEndOfInt(below(40) - 1), orAnEndOfInt(below(8) - 1)};
+            case 15: return new int[] {15, orAnEndOfInt(below(40) - 1), orAnEndOfInt(below(6) - 1)};
             default: return new int[] {which, list()};
         }
     }
