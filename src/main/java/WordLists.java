@@ -412,10 +412,10 @@ public final class WordLists {
         int blanks = 0;
         for (int i = 0; i < signCount; i++) {
             int u = foldedSign(i);
-            if (u == BLANK) {
-                blanks++;
-            } else {
+            if (isLetter(u)) {
                 stock[u - FIRST_LETTER]++;
+            } else {
+                blanks++;
             }
         }
         return blanks;

@@ -132,12 +132,14 @@ public final class CallsTest {
         due512("common", 2, x -> x.common(0));
         due512("letter", 'a', x -> x.letter(0, 1));
         due512("tell", 7, x -> x.tell(0, 0));
-        due512("at", 0, x -> x.at(0, 'a'));
+        due512("at", 1, x -> x.at(0, 'a'));
+        due512("candidate", 0, x -> x.candidate(0));
     }
 
     private static void due512(String what, int want, Question question) {
         Counted x = new Counted();
         x.enter("aa", 0, 7);
+        x.seek(0);
         while (x.calls() < LAST) {
             Check.due(what + ", call " + x.calls(), want, question.of(x));
         }

@@ -1,10 +1,15 @@
+import java.io.IOException;
 import java.lang.reflect.Constructor;
 import java.lang.reflect.Field;
 import java.lang.reflect.Method;
 import java.lang.reflect.Modifier;
+import java.nio.file.Files;
+import java.nio.file.Path;
 import java.util.Arrays;
+import java.util.List;
 import java.util.Set;
 import java.util.TreeSet;
+import java.util.stream.Collectors;
 
 /** The class has the document's public face, and no other member that others could see. */
 public final class FaceTest {
@@ -28,14 +33,36 @@ public final class FaceTest {
         "int common(int) throws"
     };
 
-    public static void main(String[] args) {
+    private static final String INDENT = "    ";
+
+    public static void main(String[] args) throws IOException {
         int modifiers = WordLists.class.getModifiers();
         Check.due("public", true, Modifier.isPublic(modifiers));
         Check.due("final", true, Modifier.isFinal(modifiers));
         constructors();
         methods();
         fields();
+        asTheDocumentWritesIt();
         Check.end();
+    }
+
+    /** With the arguments' names, too, which a compiled class does not tell. */
+    private static void asTheDocumentWritesIt() throws IOException {
+        List<String> document = Files.readAllLines(Path.of("../shared/DOC.md"));
+        int start = document.indexOf("```java") + 1;
+        List<String> face = document.subList(start, start + document.subList(start, document.size()).indexOf("```"));
+        List<String> wanted = face.stream().filter(line -> !line.equals("}"))
+            .map(line -> line.replaceAll(";$", " {")).collect(Collectors.toList());
+        List<String> written = Files.readAllLines(Path.of("src/main/java/WordLists.java")).stream()
+            .filter(line -> line.startsWith("public ") || line.startsWith(INDENT + "public ")).collect(Collectors.toList());
+        if (!written.equals(wanted)) {
+            Check.report("the face is written " + written + ", due is " + wanted);
+        }
+        List<String> promised = document.stream().filter(line -> line.startsWith("`") && line.contains("`: "))
+            .map(line -> INDENT + "public " + line.substring(1, line.indexOf("`: ")) + ";").collect(Collectors.toList());
+        if (!promised.equals(face.subList(1, face.size() - 1))) {
+            Check.report("the promises are of " + promised + ", the face has " + face);
+        }
     }
 
     private static void constructors() {

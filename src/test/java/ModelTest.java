@@ -7,6 +7,7 @@ import java.util.regex.Pattern;
 /** Long runs of calls, the same every time, on the class and on a plain model of the document. */
 public final class ModelTest {
     private static final int RUNS = 3000;
+    private static final int RUNS_OF_TWO = 300;
     private static final int CALLS = 512;
     private static final int THROWS = Integer.MIN_VALUE;
 
@@ -311,10 +312,25 @@ public final class ModelTest {
         }
     }
 
+    /** By turns, so that anything that the one left behind would show in the other. */
+    private void runOfTwoObjects(int number) {
+        WordLists[] objects = {new WordLists(), new WordLists()};
+        Model[] models = {new Model(), new Model()};
+        for (int i = 0; i < CALLS; i++) {
+            int which = below(2);
+            int[] c = call(3, 6);
+            String what = "two objects, run " + number + ", call " + i + " " + Arrays.toString(c);
+            Check.due(what, models[which].answer(c), answer(objects[which], c));
+        }
+    }
+
     public static void main(String[] args) {
         ModelTest test = new ModelTest();
         for (int number = 0; number < RUNS; number++) {
             test.run(number);
+        }
+        for (int number = 0; number < RUNS_OF_TWO; number++) {
+            test.runOfTwoObjects(number);
         }
         Check.end();
     }

@@ -1,3 +1,7 @@
+import java.util.ArrayList;
+import java.util.Comparator;
+import java.util.List;
+
 /** The section "Terms", a method for each of its sentences that names a bound or an edge. */
 public final class TermsTest {
     private static final int LEAST = Integer.MIN_VALUE;
@@ -27,6 +31,7 @@ public final class TermsTest {
         fitsWhenItHasTheSameOnesAtAllPlacesWithoutABlank();
         candidatesByFallingScores();
         alikeOnesByTheirLetters();
+        aHundredCandidatesInOrder();
         candidatesStayWhateverBecomesOfTheWords();
         candidatesStayUntilTheyAreSoughtAgain();
         Check.end();
@@ -408,6 +413,30 @@ public final class TermsTest {
         x.enter("aaaaaaaaaaaaaza", 2, 1000);
         x.enter("aaaaaaaaaaaaaay", 2, 1000);
         dueText("the last one of 15 letters", "12 14 11 13", x.row(FIFTEEN_BLANKS).sought(2));
+    }
+
+    /** The words ba, bh, bo, .. with scores of 0 to 4, in no order of letters or scores. */
+    private static void aHundredCandidatesInOrder() {
+        Counted x = new Counted();
+        List<String> words = new ArrayList<>();
+        List<Integer> sorted = new ArrayList<>();
+        x.row("xy");
+        for (int word = 0; word < 104; word++) {
+            char first = (char) ('b' + word / 26 * 3 % 4);
+            char second = (char) ('a' + word * 7 % 26);
+            if (word % 26 == 0) {
+                x.fold('x', first);
+            }
+            x.fold('y', second);
+            Check.due("word " + word, word, x.enter(0, word * 3 % 5));
+            words.add("" + first + second);
+            sorted.add(word);
+        }
+        sorted.sort(Comparator.comparing((Integer word) -> -(word * 3 % 5)).thenComparing(word -> words.get(word)));
+        Check.due("all are candidates", 104, x.row("??").seek(0));
+        for (int k = 0; k < 104; k++) {
+            Check.due("candidate " + k + " of 104", sorted.get(k), x.candidate(k));
+        }
     }
 
     private static Counted withThreeCandidates() {
